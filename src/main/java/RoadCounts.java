@@ -648,16 +648,13 @@ public final class RoadCounts {
             }
         }
 
-        boolean isLastFull() {
-            return size > 0 && spansOfClause[size - 1] >= MOST_SPANS;
-        }
-
         void addSpanToLast(int from, int to) {
-            if (size > 0 && !isLastFull()) {
-                int place = spansOfClause[size - 1];
-                least[size - 1][place] = from;
-                greatest[size - 1][place] = to;
-                spansOfClause[size - 1]++;
+            int last = size - 1;
+            if (last >= 0 && spansOfClause[last] < MOST_SPANS) {
+                int place = spansOfClause[last];
+                least[last][place] = from;
+                greatest[last][place] = to;
+                spansOfClause[last]++;
             }
         }
 
@@ -739,7 +736,7 @@ public final class RoadCounts {
                 if (fault != 0) {
                     return fault;
                 }
-                more = sign() == ',' && !into.isLastFull();
+                more = sign() == ',';
             }
             return place >= length || sign() == ';' ? 0 : CANNOT_STAND + place;
         }

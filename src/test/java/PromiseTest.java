@@ -276,6 +276,26 @@ public final class PromiseTest {
         x.weekday(3, 0, 4);
         // misfits 98/149, 2/3, 4/4 and 6/5: the quotient tells, and not its whole part
         check.due("10 not rounded", x.best(0), 0);
+        RoadCounts y = new RoadCounts();
+        y.road(0, 1, 0);
+        for (int day = 0; day < 7; day++) {
+            y.count(0, day, 10 + 10 * day);
+            y.weekday(2, day, 1 + day);
+            y.weekday(3, day, 7 - day);
+        }
+        y.weekday(1, 6, 9);
+        check.due("10 seven days", y.best(0), 2);
+        int[][] weights = {{2, 1, 1}, {3, 2, 4}, {9, 1, 1}, {1, 1, 9}};
+        RoadCounts z = new RoadCounts();
+        z.road(0, 1, 0);
+        for (int day = 0; day < 3; day++) {
+            z.count(0, day, 10);
+            for (int s = 0; s < 4; s++) {
+                z.weekday(s, day, weights[s][day]);
+            }
+        }
+        // misfits 40/4 and 60/9; without the first day they would be 20/4 and 60/9
+        check.due("10 the first day counts", z.best(0), 1);
     }
 
     private static void how() {
@@ -428,6 +448,13 @@ public final class PromiseTest {
         y.road(1, 0, 0);
         y.road(-1, 0, 0);
         check.due("16 fewest roads for nothing", y.plan(), 3);
+        RoadCounts z = new RoadCounts();
+        z.road(-1, 2, 9999);
+        z.road(2, 3, 1);
+        z.road(3, -1, 0);
+        check.due("16 the first is dear", z.plan(), 4);
+        z.road(2, -1, 9999);
+        check.due("16 one of two dear ones", z.plan(), 5);
     }
 
     private static void feed() {
@@ -511,6 +538,10 @@ public final class PromiseTest {
         check.due("18 none of many", x.rules(0), 0);
         check.due("18 no rules", x.tell(2), 0);
         check.due("18 empty by none", x.tell(3), 0);
+        Check.feed(x, Check.bytes("0:1-1;9"));
+        check.due("18 nothing behind the first is read", x.rules(5), 0);
+        Check.feed(x, Check.bytes("0:1-2561"));
+        check.due("18 no digit behind them either", x.rules(6), 0);
     }
 
     private static void pass() {
